@@ -1462,11 +1462,13 @@ public final class HeardBarrels {
 
         private int leastChoice(int state, int more, int turns) {
             for (int chosen = 0; chosen < 1 << kept; chosen++) {
-                if (canChoose(state, chosen, more + 1)) {
-                    int rest = fewest(capped(behind(state, chosen), more), more);
-                    if (rest + Integer.bitCount(chosen) == turns) {
-                        return chosen;
-                    }
+                if (!canChoose(state, chosen, more + 1)) {
+                    continue;
+                }
+                int rest = turns - Integer.bitCount(chosen);
+                int next = capped(behind(state, chosen), more);
+                if (leastPossible(next, more) <= rest && fewest(next, more) == rest) {
+                    return chosen;
                 }
             }
             return 0;
@@ -1494,13 +1496,30 @@ public final class HeardBarrels {
             }
             int best = IMPOSSIBLE;
             for (int chosen = 0; chosen < 1 << kept; chosen++) {
-                if (canChoose(state, chosen, days)) {
-                    int rest = fewest(capped(behind(state, chosen), days - 1), days - 1);
-                    best = Math.min(best, rest + Integer.bitCount(chosen));
+                if (!canChoose(state, chosen, days)) {
+                    continue;
+                }
+                int turns = Integer.bitCount(chosen);
+                int next = capped(behind(state, chosen), days - 1);
+                // Most ways are seen to be no better without being gone.
+                if (turns + leastPossible(next, days - 1) < best) {
+                    best = Math.min(best, turns + fewest(next, days - 1));
                 }
             }
             remember(key, best);
             return best;
+        }
+
+        /** The turns that are needed, if each barrel is turned as late as it can be and hands suffice. */
+        private int leastPossible(int state, int days) {
+            int turns = 0;
+            for (int i = 0; i < kept; i++) {
+                int late = days - (state >> FIELD * i & FIELD_BITS) - 1;
+                if (late >= 0) {
+                    turns += 1 + late / ((fresh >> FIELD * i & FIELD_BITS) + 1);
+                }
+            }
+            return turns;
         }
 
         /** Whether none that must be is left out, none that need not be at all is in, and hands suffice. */
