@@ -36,6 +36,15 @@ public final class HouseTest {
         due.is("the tape stays", x.count(8), 900);
         due.is("house(900)", x.house(900), 0);
         due.is("the tape is empty", x.count(8), 0);
+        // what stands behind the first n bytes is no part of the text
+        Due.feedAll(x, "cold 12;");
+        due.is("house(6)", x.house(6), -32);
+        due.is("fault(1)", x.fault(1), 6);
+        Due.feedAll(x, "gap;gaps;");
+        due.is("house(7)", x.house(7), -32);
+        due.is("fault(1)", x.fault(1), 7);
+        Due.feedAll(x, "gap;   $");
+        due.is("house(7)", x.house(7), 1);
         // "gap;" by its bytes, the highest first; a negative int too
         due.is("feed", x.feed(0x6761703B, 0xFFFFFFFF, 0, 0, 0), 20);
         due.is("house(4)", x.house(4), 1);
@@ -93,6 +102,8 @@ public final class HouseTest {
         fault("12;", 2, 0);
         fault("gap;;", 2, 4);
         fault("gaps;", 2, 0);
+        fault("z", 2, 0);
+        fault("a" + "z".repeat(60), 2, 0);
         fault("ripe 3;", 2, 0);
         fault("bad;", 2, 0);
         fault("stones;", 2, 0);
