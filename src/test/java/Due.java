@@ -2,12 +2,18 @@
 final class Due {
     private int wrong;
     private int asked;
+    private String sentence = "";
+
+    /** The sentence of the document that is tested from here on. */
+    void about(String words) {
+        sentence = "'" + words + "': ";
+    }
 
     void is(String call, long got, long want) {
         asked++;
         if (got != want) {
             wrong++;
-            System.out.println(call + " answered " + got + ", due is " + want);
+            System.out.println(sentence + call + " answered " + got + ", due is " + want);
         }
     }
 
@@ -65,7 +71,7 @@ final class Due {
         asked++;
         if (!got.equals(want)) {
             wrong++;
-            System.out.println(what + ": " + got + ", due is " + want);
+            System.out.println(sentence + what + ": " + got + ", due is " + want);
         }
     }
 
