@@ -365,7 +365,7 @@ public final class EdgeHouseTest {
         twins.still("write(1, 5, 1)", -7, x -> x.write(1, 5, 1));
         twins.still("write(2, 3, 1)", -7, x -> x.write(2, 3, 1));
         // as it is there
-        twins.still("write(1, 4, 10)", 10, x -> x.write(1, 4, 10));
+        twins.still("write(1, 0, 51)", 51, x -> x.write(1, 0, 51));
     }
 
     private static void imagesAndNone() {
