@@ -37,6 +37,7 @@ public final class EdgeDaysTest {
         leakIsNineAtMost();
         leakGoesOn();
         leakRefuses();
+        fiveHundredAndTwelveCalls();
         due.end();
     }
 
@@ -646,5 +647,15 @@ public final class EdgeDaysTest {
         }
         rich.still("leak at a gap", 0, x -> x.leak(2, 12));
         rich.still("leak at a bad one, for 1", 0, x -> x.leak(1, 1));
+    }
+
+    private static void fiveHundredAndTwelveCalls() {
+        due.about("An object is used for at most 512 calls after it has been made");
+        HeardBarrels x = new HeardBarrels();
+        for (int i = 1; i <= 510; i++) {
+            due.is("call " + i, x.day(0), 0);
+        }
+        due.is("call 511", x.count(4), 510);
+        due.is("call 512", x.day(1), -3);
     }
 }

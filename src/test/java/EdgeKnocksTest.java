@@ -27,6 +27,8 @@ public final class EdgeKnocksTest {
         fewerThanTwoFit();
         noSuchPlaceForNext();
         ofLikeOnesTheLeast();
+        nextOfTwelve();
+        firstPlaceIsNoneThatCanBeBad();
         waysAtAPlace();
         alikeToASet();
         enoughOfEight();
@@ -471,6 +473,69 @@ public final class EdgeKnocksTest {
         HeardBarrels deaf = due.at("barrel 1 ripe 2;barrel 1;low 1;lie 0;cold 9;");
         Due.row(deaf, 0, 2, 12, 999);
         next(deaf, 2, 1, 2);
+    }
+
+    private static void nextOfTwelve() {
+        due.about("by what may be HEARD there");
+        HeardBarrels full = due.at("barrel 1;".repeat(12));
+        full.numbers(0, 2, 12);
+        full.copy(0, 0);
+        next(full, 4096, 0, 1024);
+        HeardBarrels deaf = due.at("barrel 1;".repeat(12) + "low 1;lie 0;cold 9;");
+        deaf.numbers(0, 2, 12);
+        deaf.copy(0, 0);
+        next(deaf, 4096, 0, 4096);
+        HeardBarrels last = due.at("barrel 1;".repeat(11) + "barrel 1 ripe 2;low 1;lie 0;cold 9;");
+        last.numbers(0, 2, 12);
+        last.copy(0, 0);
+        next(last, 4096, 11, 2048);
+        // what is heard at the next PLACE is another matter
+        HeardBarrels two = due.at("barrel 1;barrel 1;lie 0;");
+        Due.row(two, 0, 2, 999, 999);
+        next(two, 4, 0, 2);
+    }
+
+    private static void firstPlaceIsNoneThatCanBeBad() {
+        due.about("sets of barrels that aren't stones");
+        String[] firsts = {"gap;", "barrel 1 stones;"};
+        for (int i = 0; i < 2; i++) {
+            HeardBarrels x = due.at(firsts[i] + "barrel 1;barrel 1 bad;");
+            x.numbers(0, 2, 3);
+            x.copy(0, 0);
+            next(x, 4, 1, 1);
+            due.is("the least", x.fitting(0, 0), 0);
+            due.is("the last", x.fitting(0, 3), 6);
+            due.is("sure", x.sure(0, true), 0);
+            due.is("sure not", x.sure(0, false), 0);
+            due.is("needed", x.needed(0), 1);
+            // PLACE 1 is heard as 121, 117, 106, 102, with a gap beside it 1 more
+            int[] heard = {121, 117, 106, 102};
+            for (int tone : heard) {
+                due.is("ways", x.ways(1, tone + 1 - i), 1);
+            }
+            due.is("enough", x.enough(), 2);
+            due.is("alike", x.alike(0), 1);
+            x.copy(7, 0);
+            due.is("fit", x.fit(0), 1);
+            due.is("fitting", x.fitting(0, 0), 4);
+            due.is("sure", x.sure(0, true), 4);
+            due.is("sure not", x.sure(0, false), 2);
+            due.is("needed", x.needed(0), 0);
+            x.copy(0, 0);
+            x.write(0, 2, 121);
+            due.is("fit", x.fit(0), 1);
+            due.is("fitting", x.fitting(0, 0), 0);
+            due.is("sure not", x.sure(0, false), 6);
+            x.copy(0, 0);
+            x.write(0, 1, 122 - i);
+            due.is("fit", x.fit(0), 1);
+            due.is("sure not", x.sure(0, false), 6);
+            due.is("needed", x.needed(0), 0);
+        }
+        HeardBarrels none = due.at("barrel 1 stones;gap;barrel 1;low 1;cold 9;");
+        due.is("enough, it isn't heard", none.enough(), -1);
+        due.is("alike", none.alike(0), 2);
+        due.is("ways", none.ways(2, 12), 2);
     }
 
     private static void waysAtAPlace() {

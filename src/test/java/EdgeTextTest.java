@@ -23,6 +23,7 @@ public final class EdgeTextTest {
         everyByteBehindAWord();
         everyByteBehindDigits();
         tokensGoOn();
+        wordsAreWholeWords();
         digitsAreThreeAtMost();
         faultsAtTheEnd();
         everyPartOfAText();
@@ -377,6 +378,23 @@ public final class EdgeTextTest {
         fault("low 3;;", 2, 6);
         fault("z".repeat(900), 2, 0);
         fault(" ".repeat(899) + "9", 2, 899);
+    }
+
+    private static void wordsAreWholeWords() {
+        due.about("words (small letters); 2 it can't stand there");
+        String[] good = {"barrel 1;", "gap;", "low 1;", "lie 1;", "hands 1;", "left 1;", "cold 1;", "barrel 1 ripe 1;",
+            "barrel 1 idle 1;", "barrel 1 bad;", "barrel 1 stones;"};
+        for (String text : good) {
+            good(text, 1);
+            int from = text.startsWith("barrel 1 ") ? 9 : 0;
+            for (int at = from; at < text.length() && letter(text.charAt(at)); at++) {
+                // another letter, a letter more, a letter less
+                char other = text.charAt(at) == 'z' ? 'a' : (char) (text.charAt(at) + 1);
+                fault(text.substring(0, at) + other + text.substring(at + 1), 2, from);
+                fault(text.substring(0, at) + other + text.substring(at), 2, from);
+                fault(text.substring(0, at) + text.substring(at + 1), 2, from);
+            }
+        }
     }
 
     private static void digitsAreThreeAtMost() {
