@@ -818,7 +818,6 @@ public final class HeardBarrels {
         private static final int IDLE_WORD = 8;
         private static final int BAD_WORD = 9;
         private static final int STONES_WORD = 10;
-        private static final int WORDS = 11;
         /** Bounds of what the words LOW to COLD set. */
         private static final int[] LEAST = {1, 0, 1, 1, 0};
         private static final int[] MOST = {40, 20, 12, 6, 9};
@@ -829,8 +828,8 @@ public final class HeardBarrels {
         private int at;
         private int token;
         private int tokenPlace;
-        /** Of a WORD which it is (NONE: an unknown one), of a NUMBER its value. */
-        private int meaning;
+        /** Of a NUMBER its value. */
+        private int value;
         int faultKind;
         int faultPlace = NONE;
 
@@ -857,10 +856,10 @@ public final class HeardBarrels {
         }
 
         private boolean readsLine() {
-            if (token != WORD || meaning < 0 || meaning > GAP_WORD) {
+            int word = firstWord();
+            if (word == NONE) {
                 return refuses(NOT_THERE);
             }
-            int word = meaning;
             if (word >= BARREL_WORD && into.places >= MOST_PLACES) {
                 return refuses(ONE_PLACE_MORE);
             }
@@ -875,6 +874,16 @@ public final class HeardBarrels {
             }
             step();
             return true;
+        }
+
+        /** The word here with which a line begins; NONE: no such one. */
+        private int firstWord() {
+            for (int word = LOW; word <= GAP_WORD; word++) {
+                if (isWord(word)) {
+                    return word;
+                }
+            }
+            return NONE;
         }
 
         private boolean addsGap() {
@@ -906,30 +915,30 @@ public final class HeardBarrels {
             if (word < 0 || word >= LEAST.length) {
                 return refuses(NOT_THERE);
             }
-            int value = numberWithin(LEAST[word], MOST[word]);
+            int number = numberWithin(LEAST[word], MOST[word]);
             switch (word) {
                 case LOW:
-                    into.low = value;
+                    into.low = number;
                     break;
                 case LIE:
-                    into.lie = value;
+                    into.lie = number;
                     break;
                 case HANDS:
-                    into.hands = value;
+                    into.hands = number;
                     break;
                 case LEFT:
-                    into.left = value;
+                    into.left = number;
                     break;
                 default:
-                    into.cold = value;
+                    into.cold = number;
                     break;
             }
-            return value >= 0;
+            return number >= 0;
         }
 
         /** Steps over a word, if it stands here: whether it did. */
         private boolean passes(int word) {
-            if (token != WORD || meaning != word) {
+            if (!isWord(word)) {
                 return false;
             }
             step();
@@ -938,7 +947,7 @@ public final class HeardBarrels {
 
         /** The number that stands here; NONE: a fault. */
         private int numberWithin(int least, int most) {
-            int number = meaning;
+            int number = value;
             if (token != NUMBER) {
                 refuses(NOT_THERE);
                 return NONE;
@@ -962,7 +971,6 @@ public final class HeardBarrels {
                 at++;
             }
             tokenPlace = at;
-            meaning = NONE;
             if (at >= length) {
                 token = END;
             } else if (isLetter(text[at])) {
@@ -980,11 +988,6 @@ public final class HeardBarrels {
             while (at < length && isLetter(text[at])) {
                 at++;
             }
-            for (int word = 0; word < WORDS && meaning == NONE; word++) {
-                if (isSpelt(spelling(word))) {
-                    meaning = word;
-                }
-            }
         }
 
         private void stepOverDigits() {
@@ -994,15 +997,16 @@ public final class HeardBarrels {
                 at++;
             }
             token = at - tokenPlace > 3 ? STRANGE : NUMBER;
-            meaning = number;
+            value = number;
         }
 
-        private boolean isSpelt(String word) {
-            if (at - tokenPlace != word.length()) {
+        private boolean isWord(int word) {
+            String letters = spelling(word);
+            if (token != WORD || at - tokenPlace != letters.length()) {
                 return false;
             }
-            for (int i = 0; i < word.length(); i++) {
-                if (text[tokenPlace + i] != word.charAt(i)) {
+            for (int i = 0; i < letters.length(); i++) {
+                if (text[tokenPlace + i] != letters.charAt(i)) {
                     return false;
                 }
             }

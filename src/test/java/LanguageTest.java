@@ -2,6 +2,8 @@ import java.io.ByteArrayInputStream;
 import java.io.DataInputStream;
 import java.io.IOException;
 import java.io.InputStream;
+import java.io.PrintWriter;
+import java.io.StringWriter;
 import java.lang.reflect.Constructor;
 import java.lang.reflect.Field;
 import java.lang.reflect.Method;
@@ -11,10 +13,13 @@ import java.nio.file.Files;
 import java.nio.file.Path;
 import java.util.ArrayList;
 import java.util.List;
+import java.util.Map;
 import java.util.Set;
+import java.util.TreeMap;
 import java.util.TreeSet;
 import java.util.regex.Matcher;
 import java.util.regex.Pattern;
+import java.util.spi.ToolProvider;
 
 /** What of LANGUAGE.md can be seen from the source, the classes and their constant pools. */
 public final class LanguageTest {
@@ -31,6 +36,7 @@ public final class LanguageTest {
     public static void main(String[] args) throws Exception {
         sourceKeepsToTheRules();
         faceIsTheDocuments();
+        callsAreNotDeep();
         for (Class<?> c : classes()) {
             membersKeepToTheRules(c);
             for (String call : libraryCalls(c)) {
@@ -111,6 +117,58 @@ public final class LanguageTest {
             boolean known = c != HeardBarrels.class && FACE.contains(m.getName());
             due.is(m + " bears the name of a public one", known ? 1 : 0, 0);
         }
+    }
+
+    /** Rule 11: calls that are no recursion, those of the library too, go at most eight deep. */
+    private static void callsAreNotDeep() {
+        Map<String, Set<String>> calls = new TreeMap<>();
+        findCalls(HeardBarrels.class, calls);
+        for (Class<?> inside : HeardBarrels.class.getDeclaredClasses()) {
+            findCalls(inside, calls);
+        }
+        Set<String> again = new TreeSet<>();
+        for (String method : calls.keySet()) {
+            int depth = depthOf(method, List.of(), calls, again);
+            due.is("calls within " + method, Math.max(8, depth), 8);
+        }
+        due.same("recursion", again.toString(), "[HeardBarrels$Keeper.fewest, HeardBarrels$Keeper.lasting]");
+        due.is("methods were found", Math.min(calls.size(), 100), 100);
+    }
+
+    /** Who calls whom, as javap tells it. */
+    private static void findCalls(Class<?> c, Map<String, Set<String>> calls) {
+        StringWriter told = new StringWriter();
+        PrintWriter out = new PrintWriter(told);
+        ToolProvider.findFirst("javap").orElseThrow().run(out, out, "-c", "-p", "-cp",
+                System.getProperty("java.class.path"), c.getName());
+        Pattern head = Pattern.compile("  [^ ].*?([\\w$]+)\\(.*\\);");
+        Pattern call = Pattern.compile(".*: invoke.*// \\w*Method (?:([\\w$/]+)\\.)?\"?([\\w<>]+)\"?:.*");
+        String method = "";
+        for (String line : told.toString().split("\\R")) {
+            Matcher begins = head.matcher(line);
+            Matcher calling = call.matcher(line);
+            if (begins.matches()) {
+                method = c.getName() + "." + begins.group(1);
+                calls.putIfAbsent(method, new TreeSet<>());
+            } else if (calling.matches()) {
+                String owner = calling.group(1) == null ? c.getName() : calling.group(1);
+                calls.get(method).add(owner + "." + calling.group(2));
+            }
+        }
+    }
+
+    private static int depthOf(String method, List<String> within, Map<String, Set<String>> calls, Set<String> again) {
+        List<String> path = new ArrayList<>(within);
+        path.add(method);
+        int most = 0;
+        for (String called : calls.getOrDefault(method, Set.of())) {
+            if (path.contains(called)) {
+                again.add(called);
+            } else {
+                most = Math.max(most, depthOf(called, path, calls, again));
+            }
+        }
+        return 1 + most;
     }
 
     /** The methods of other classes that a class names in its constant pool. */
