@@ -172,19 +172,30 @@ public final class ReadmeTest {
         due.is(".ci/run can be run", Files.isExecutable(Path.of(".ci/run")) ? 1 : 0, 1);
     }
 
-    /** That this test sees a page that is wrong: an answer, a name, a call without its answer. */
+    /** That this test sees a page that is wrong: an answer, a name, a method, a call without its answer. */
     private static void wrongPagesAreFound(String readme) throws Exception {
         due.about("a changed README.md");
-        Shown wrong = new Shown(readme.replace("x.tone(0);             // 78", "x.tone(0);             // 79"));
-        long[] got = wrong.run();
-        int differ = 0;
-        for (int i = 0; got != null && i < got.length; i++) {
-            differ += got[i] == wrong.answers.get(i) ? 0 : 1;
+        Shown told = new Shown(readme);
+        Shown wrong = new Shown(readme.replaceFirst("// (\\d+:)", "// 1$1"));
+        due.is("the first answer is another", told.answers.get(0).equals(wrong.answers.get(0)) ? 1 : 0, 0);
+        due.is("answers that are wrong", howManyDiffer(wrong) - howManyDiffer(told), 1);
+        Shown misnamed = new Shown(readme.replace("x.count(", "x.counted("));
+        due.is("a name that is wrong compiles", howManyDiffer(misnamed), -1);
+        Shown unfinished = new Shown(readme.replaceFirst("return .*;", ""));
+        due.is("a method without its end compiles", howManyDiffer(unfinished), -1);
+        due.is("lines without an answer", new Shown(readme.replaceFirst("// \\d+: ", "// ")).strange.size(), 1);
+    }
+
+    /** How many answers are not as a page shows them; -1: it doesn't compile. */
+    private static int howManyDiffer(Shown shown) throws Exception {
+        long[] got = shown.run();
+        if (got == null) {
+            return -1;
         }
-        due.is("answers that are wrong", differ, 1);
-        due.is("a name that is wrong compiles", new Shown(readme.replace("x.tone(", "x.tune(")).run() == null ? 0 : 1, 0);
-        due.is("a method that is wrong compiles", new Shown(readme.replace("return bytes;", "")).run() == null ? 0 : 1,
-                0);
-        due.is("lines without an answer", new Shown(readme.replace("// 78: 120", "// it is 120")).strange.size(), 1);
+        int differ = 0;
+        for (int i = 0; i < got.length; i++) {
+            differ += got[i] == shown.answers.get(i) ? 0 : 1;
+        }
+        return differ;
     }
 }
